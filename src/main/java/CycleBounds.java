@@ -38,13 +38,19 @@ public final class CycleBounds {
     private static final int MOST_STEPS = 1000000;
 
     // A row of a sure table has the ages of the lines, and behind them the bound so far: where
-    // tables meet, the greater one counts for the bound just as for the ages.
+    // tables meet, the greater one counts for the bound just as for the ages. Each of the 18
+    // statements has a row of its own, since no statement is begun again before it is left.
     private static final int BOUND = 12;
     private static final int ROW = 13;
     private static final int ALL_ROWS = 234;
 
+    // An access that the walk over the tables has not come to yet is neither sure nor unsure.
     private static final int UNSEEN = 2;
+
+    // Ages go up to 4, so those of all lines fit a long.
     private static final int AGE_BITS = 3;
+
+    // A run takes at most 120 times 50 cycles.
     private static final int ABOVE_ALL_TIMES = 1000000;
 
     private final int setCount;

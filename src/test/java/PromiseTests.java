@@ -290,6 +290,7 @@ public final class PromiseTests {
     limit("20 choices", ten + " l22", 12, 121, 24);
     limit("21 choices", ten + " l12", TOO_MANY, 0, 0);
     limit("22 choices", ten + " l01 l22", TOO_MANY, 0, 0);
+    limit("22 choices, one of each round an if's", ten + " w1 ? l22", TOO_MANY, 0, 0);
     limit("17 choices", ten + " l01 l01 l01 l01 l01 l01 l01", 18, 18, 18);
     limit("very many paths",
         "w1 l04 l04 l04 l04 l04 l04 l04 l04 l04 l04 l04 l04 l04 l04 l04 l04 l04", TOO_MANY, 0, 0);
@@ -297,6 +298,9 @@ public final class PromiseTests {
         "w1 l44 l44 l44 l44 l44 l44 l44 l44 l44 l44 l44 l44 l44 l44 l44 l44 l44", TOO_MANY, 0, 0);
     limit("very much that is never done",
         "w1 l04 l04 l04 l04 l04 l04 l04 l04 l04 l04 l04 l04 l04 l04 l04 l00", 17, 1, 0);
+    // 3 to the 20th paths, which an int holds as a negative number; nothing else is too much.
+    limit("3 to the 20th paths",
+        "w1 l02 w1 l02 ; w1 l02 ; w1 l02 ; w1 l02 ; l22 l22", TOO_MANY, 0, 0);
     limit("paths of a loop of loops", "w1 l04 l44", TOO_MANY, 0, 0);
     limit("paths of an if in loops", "w1 w2 ? l44 l44", TOO_MANY, 0, 0);
     limit("paths of an if in a loop", "w1 w2 ? l44", 4, 16, 8);
@@ -344,6 +348,10 @@ public final class PromiseTests {
     due("worst of an if", x.worst(), 50);
     due("best of an if", x.best(), 3);
     due("worstRuns of an if", x.worstRuns(), 1);
+    build(x, "w3 w50 ? p");
+    due("worst of an if", x.worst(), 50);
+    due("best of an if", x.best(), 3);
+    due("worstRuns when the first is not the worst", x.worstRuns(), 1);
     build(x, "w7 w7 ? l22 p");
     due("worstRuns of like sides", x.worstRuns(), 4);
     // The longer side at once is the quicker one later.
@@ -505,6 +513,11 @@ public final class PromiseTests {
     build(y, "a5 a5 ; a6 w1 ? ; l33 p");
     accessIs(y, 0, 0, 3, 2, 1);
     accessIs(y, 1, 1, 0, 3, 0);
+    // Sure in the first round, not in the second.
+    build(y, "a5 a5 a6 ; l22 ; p");
+    accessIs(y, 0, 0, 1, 0, 1);
+    accessIs(y, 1, 0, 1, 1, 1);
+    build(y, "a5 a5 ; a6 w1 ? ; l33 p");
     // Numbers are those of the program, not of what is on the stack.
     y.discard();
     build(y, "w1 a5 ;");
@@ -528,6 +541,7 @@ public final class PromiseTests {
     due("holds(most)", x.holds(MOST), BAD_ARG);
     due("holds(0)", x.holds(0), 0);
     due("holds(11)", x.holds(11), 0);
+    due("order of the eldest two", with(0, 4, "a0 a2 ; a2 a0 ; ? a5 ; a7 ; p").ends(), 2);
     // In two sets there is no order between 5 and 6.
     due("no order across sets", with(1, 2, "a5 a6 ; a6 a5 ; ? p").ends(), 1);
     due("order in one of two sets", with(1, 2, "a5 a7 ; a7 a5 ; ? p").ends(), 2);
