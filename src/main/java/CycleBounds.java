@@ -53,7 +53,9 @@ public final class CycleBounds {
     // A run takes at most 120 times 50 cycles.
     private static final int ABOVE_ALL_TIMES = 1000000;
 
-    private final int setCount;
+    // The number of sets is a power of 2, so a line's number modulo it is what these bits leave:
+    // nothing has to be divided.
+    private final int setBits;
     private final int placeCount;
 
     // The statements. first is the line, the cycles or A, second is B; low and high are the
@@ -101,7 +103,7 @@ public final class CycleBounds {
     private final int[] behind = new int[ALL_ROWS];
 
     public CycleBounds(int sets, int places) {
-        setCount = sets < 1 ? 1 : sets == 1 ? 2 : 4;
+        setBits = sets < 1 ? 0 : sets == 1 ? 1 : 3;
         placeCount = places < 1 ? 1 : places > MOST_PLACES ? MOST_PLACES : places;
         int root = putLeaf(WORK, 0);
         adopt(root);
@@ -361,7 +363,7 @@ public final class CycleBounds {
     private int accessAges(int[] ages, int m) {
         int age = ages[m];
         for (int line = 0; line < LINES; line++) {
-            if (line % setCount == m % setCount && ages[line] < age) {
+            if ((line & setBits) == (m & setBits) && ages[line] < age) {
                 ages[line]++;
             }
         }
@@ -605,7 +607,9 @@ public final class CycleBounds {
 
     private void raiseBehind(int n) {
         for (int i = 0; i < ROW; i++) {
-            behind[n * ROW + i] = greater(behind[n * ROW + i], table[i]);
+            if (table[i] > behind[n * ROW + i]) {
+                behind[n * ROW + i] = table[i];
+            }
         }
     }
 

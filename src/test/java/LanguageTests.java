@@ -4,7 +4,9 @@ import java.lang.reflect.Method;
 import java.lang.reflect.Modifier;
 import java.nio.file.Files;
 import java.nio.file.Path;
+import java.util.Map;
 import java.util.Set;
+import java.util.TreeMap;
 import java.util.TreeSet;
 import java.util.regex.Matcher;
 import java.util.regex.Pattern;
@@ -49,6 +51,8 @@ public final class LanguageTests {
       String name = field.getName();
       boolean isStatic = Modifier.isStatic(field.getModifiers());
       due(name + " is of a type that rule 2 forbids", isAllowed(field.getType()));
+      due(name + " is an array and not final (rule 4)",
+          !field.getType().isArray() || Modifier.isFinal(field.getModifiers()));
       if (isStatic) {
         due(name + " is static and no constant number (rule 5)",
             Modifier.isFinal(field.getModifiers()) && !field.getType().isArray());
@@ -102,8 +106,85 @@ public final class LanguageTests {
         && parameters(makers[0].getParameterTypes()).equals("int,int"));
   }
 
-  private static void checkText(String source) {
-    String code = source.replaceAll("(?s)/\\*.*?\\*/", "").replaceAll("//[^\n]*", "");
+  private static String withoutComments(String source) {
+    return source.replaceAll("(?s)/\\*.*?\\*/", "").replaceAll("//[^\n]*", "");
+  }
+
+  // The text of each method, and of the constructor, by its name.
+  private static Map<String, String> bodies(String code) {
+    Map<String, String> found = new TreeMap<>();
+    Matcher heads = Pattern.compile(
+        "(?ms)^    (?:public|private)(?: static)?(?: \\w+)? (\\w+)\\([^)]*\\) \\{\n(.*?)^    }$")
+        .matcher(code);
+    while (heads.find()) {
+      due(heads.group(1) + " is there twice", found.put(heads.group(1), heads.group(2)) == null);
+    }
+    return found;
+  }
+
+  private static Set<String> callsIn(String text, Set<String> names) {
+    Set<String> called = new TreeSet<>();
+    Matcher calls = Pattern.compile("\\b(\\w+)\\(").matcher(text);
+    while (calls.find()) {
+      if (names.contains(calls.group(1))) {
+        called.add(calls.group(1));
+      }
+    }
+    return called;
+  }
+
+  // How many methods are under way at once at most, this one among them.
+  private static int depthOf(String name, Map<String, String> bodies, int above) {
+    if (above > bodies.size()) {
+      return above;
+    }
+    int deepest = 0;
+    for (String called : callsIn(bodies.get(name), bodies.keySet())) {
+      deepest = Math.max(deepest, depthOf(called, bodies, above + 1));
+    }
+    return 1 + deepest;
+  }
+
+  private static String argumentsAt(String text, int open) {
+    int level = 1;
+    int at = open;
+    while (level > 0) {
+      level += text.charAt(at) == '(' ? 1 : text.charAt(at) == ')' ? -1 : 0;
+      at++;
+    }
+    return text.substring(open, at);
+  }
+
+  private static void checkCalls(String code) {
+    Map<String, String> bodies = bodies(code);
+    due("the methods of the text are not those of the class",
+        bodies.size() == CycleBounds.class.getDeclaredMethods().length + 1);
+    for (String name : bodies.keySet()) {
+      int depth = depthOf(name, bodies, 0);
+      due("calls from " + name + " go " + depth + " deep (rules 8 and 10)", depth <= 6);
+      String body = bodies.get(name);
+      Matcher calls = Pattern.compile("\\b(\\w+)\\(").matcher(body);
+      while (calls.find()) {
+        due(name + " calls " + calls.group(1) + ", which is no method of the class (rule 3)",
+            bodies.containsKey(calls.group(1)));
+        due(name + " has a call inside the arguments of " + calls.group(1) + " (rule 10)",
+            callsIn(argumentsAt(body, calls.end()), bodies.keySet()).isEmpty());
+      }
+    }
+  }
+
+  // All loops are written as a counter against a bound, so their ends can be seen.
+  private static void checkLoops(String code) {
+    Matcher loops = Pattern.compile("\\b(while|do|for)\\b[^{]*").matcher(code);
+    Pattern counting = Pattern.compile("for \\(int (\\w+) = [^;]+;"
+        + "( [^;]+ &&)? \\1 (<|<=|>=) [^;|]+; \\1(\\+\\+|--)\\) ");
+    while (loops.find()) {
+      due("the end of a loop can't be seen (rule 8): " + loops.group(),
+          counting.matcher(loops.group()).matches());
+    }
+  }
+
+  private static void checkText(String code) {
     Matcher words = Pattern.compile("\\b(throw|throws|try|catch|synchronized|assert|instanceof"
         + "|import|package|null|float|double|String|Math|System|Integer|Long|Arrays|Object"
         + "|class\\s+\\w+\\s+extends|enum|interface|record|var)\\b|->|::|\"").matcher(code);
@@ -130,7 +211,10 @@ public final class LanguageTests {
     checkFields(seen);
     checkMethods(seen);
     due("the public face is " + seen, seen.equals(FACE));
-    checkText(Files.readString(Path.of("src/main/java/CycleBounds.java")));
+    String code = withoutComments(Files.readString(Path.of("src/main/java/CycleBounds.java")));
+    checkText(code);
+    checkCalls(code);
+    checkLoops(code);
     System.out.println(wrong == 0 ? "language: all is as due" : wrong + " things are not as due");
     if (wrong != 0) {
       System.exit(1);
