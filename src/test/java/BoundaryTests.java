@@ -464,6 +464,25 @@ public final class BoundaryTests {
     with(0, 2, younger + "l23 a5 ; p").bound(30 + 12 + 3 + 1);
   }
 
+  private static void tablesOfEachLine() {
+    says("SURE TABLES give each line an age from 0 to W; At the beginning all ages are W");
+    for (int sets : SET_ARGUMENTS) {
+      for (int m = 0; m < 12; m++) {
+        String a = "a" + m;
+        with(sets, 1, a + " p").bound(10).sure(0, 0);
+        with(sets, 1, a + " " + a + " ; p").bound(11).sure(1, 1);
+        with(sets, 1, "w0 " + a + " ? p").bound(10).sure(1, 0);
+        with(sets, 1, a + " w9 ? " + a + " ; p").bound(20).sure(3, 0);
+        with(sets, 1, "w9 " + a + " ? " + a + " ; p").bound(20).sure(3, 0);
+        with(sets, 1, a + " l04 " + a + " ; p").bound(13 + 10).sure(2, 0);
+        with(sets, 1, a + " l14 " + a + " ; p").bound(13 + 1).sure(2, 1);
+        // What the rules found when they came here before does not count.
+        with(sets, 1, "w0 w0 ? " + a + " ; l22 p").bound(11);
+        with(sets, 1, "w0 l12 " + a + " ; l22 p").bound(11);
+      }
+    }
+  }
+
   private static void boundOfALoop() {
     says("loop lo hi: the bound is b(0) + .. + b(hi - 1)");
     for (int lo = 0; lo <= 4; lo++) {
@@ -473,6 +492,9 @@ public final class BoundaryTests {
         with(0, 1, "a5 a6 ; l" + lo + hi + " p").bound(20 * hi);
       }
     }
+    // Each program's bound is its own.
+    with(0, 2, "w7 l04 p w1 l04 p").bound(4);
+    with(0, 2, "w7 w7 ? p w1 w1 ? p").bound(1);
   }
 
   private static void sureWhenever() {
@@ -612,7 +634,8 @@ public final class BoundaryTests {
     says("4: FULL as for access");
     spread(17).join(0, 17).depth(16).join(0, FULL).depth(16);
     spread(17).join(1, 17).depth(16).join(1, FULL).depth(16);
-    spread(18).join(0, FULL).join(1, FULL).depth(18);
+    spread(18).join(0, FULL).join(1, FULL).depth(18).discard(18).make("w1 w1").join(0, 2);
+    nested(18).join(0, FULL).join(1, FULL).program(18).make("w1 w1").join(1, 2);
     says("4: fewer than two statements answers TOO_FEW");
     empty().join(0, TOO_FEW).join(1, TOO_FEW).depth(0)
         .work(1, 0).join(0, TOO_FEW).join(1, TOO_FEW).depth(1)
@@ -645,6 +668,8 @@ public final class BoundaryTests {
     says("5: FULL as for access");
     spread(17).loop(0, 0, 17).depth(17).loop(0, 0, FULL).loop(4, 4, FULL).depth(17);
     nested(17).loop(0, 0, 17).depth(1).loop(0, 4, FULL).depth(1);
+    spread(18).loop(0, 0, FULL).depth(18).discard(18).make("w1").loop(0, 0, 1);
+    nested(18).loop(0, 0, FULL).program(18).make("w1").loop(0, 0, 1);
     says("5: an empty stack answers TOO_FEW");
     empty().loop(0, 0, TOO_FEW).loop(4, 4, TOO_FEW).depth(0)
         .work(1, 0).loop(0, 0, 1).depth(1).discard(1).loop(0, 4, TOO_FEW)
@@ -674,6 +699,10 @@ public final class BoundaryTests {
     says("7: the program stays");
     with(0, 2, "a5 p w50").discard(1).worst(10).holds(5, 1).of(0, 0, 1, 0, 1);
     with(0, 2, "a5 p").discard(0).worst(10).holds(5, 1).of(0, 0, 1, 0, 1);
+    says("7: what was discarded leaves nothing behind");
+    with(0, 2, "w1 l22 l34 d w1 w2 ? p").paths(2).length(1).worst(2).best(1).choices(1);
+    with(0, 2, "w1 w2 ? d w1 l22 l22 p").paths(1).length(10).worst(4).choices();
+    with(0, 2, "a1 a2 a3 d w1 w2 ? p").noAccess(0).noAccess(1).noAccess(2).worst(2).ends(1);
   }
 
   private static final String TEN = "w1" + times(10, "l01");
@@ -694,6 +723,7 @@ public final class BoundaryTests {
     says("8: The one statement on the stack becomes the program; the stack is empty afterwards");
     empty().access(3, 0).program(1).depth(0).worst(10).holds(3, 1).access(4, 0);
     nested(18).program(18).depth(0).worst(1).length(18).work(1, 0);
+    with(0, 2, "w1 l22 l34 p w1 w2 ? p").paths(2).length(1).worst(2).best(1).choices(1);
     says("8: not just one statement answers TOO_FEW");
     empty().program(TOO_FEW).depth(0).isWorkZero();
     spread(2).program(TOO_FEW).depth(2).isWorkZero();
@@ -755,6 +785,12 @@ public final class BoundaryTests {
     String ten = "w1" + times(8, "l01") + " w1 ? w1 ?";
     taken(ten + " l22", 14, 121, 20);
     tooMany(ten + " l12");
+    // Those of both parts of a seq.
+    tooMany("w1 " + TEN + " ; l12");
+    tooMany(TEN + " w1 ; l12");
+    String twoAndEight = "w1 l01 w1 l01 ;" + times(8, "l01");
+    taken(twoAndEight + " l22", 14, 144, 26);
+    tooMany(twoAndEight + " l22 w1 ?");
     tooMany(TEN + " l22 w1 ?");
     tooMany("w1 " + TEN + " l22 ?");
     // Loops without a choice are none, nor are those that are never begun.
@@ -905,6 +941,10 @@ public final class BoundaryTests {
         .holds(11, 1).holds(12, BAD_ARG).holds(LEAST, BAD_ARG).holds(MOST, BAD_ARG);
     empty().holds(-1, BAD_ARG).holds(0, 0).holds(11, 0).holds(12, BAD_ARG);
     says("21: In how many runs the cache holds line m at the end");
+    for (int m = 0; m < 12; m++) {
+      with(0, 1, "a" + m + " p").holds(m, 1).make("a" + m + " l04 p").holds(m, 4)
+          .make("w1 p").holds(m, 0);
+    }
     with(0, 4, "a0 a1 ? a2 ? a3 ? a4 ? l23 p").holds(0, 9 + 61).holds(4, 9 + 61).holds(5, 0);
     with(0, 1, "a0 a1 ? a2 ? a3 ? a4 ? l23 p").holds(0, 30).holds(4, 30);
     with(0, 2, FIVE_SIDES + " l23 a7 ; p").holds(7, 150);
@@ -1043,6 +1083,7 @@ public final class BoundaryTests {
     agesBehindAnAccess();
     tablesOfAnIf();
     tablesOfALoop();
+    tablesOfEachLine();
     boundOfALoop();
     sureWhenever();
     sureOnlyIfComeTo();
