@@ -2,10 +2,10 @@ import java.util.ArrayList;
 import java.util.List;
 import java.util.function.ToIntFunction;
 
-// Each sentence of the document that names a boundary case has a test of its own here, which begins
-// with the sentence: the last value that is allowed and the first that is not, on both sides, the
-// least and the greatest int, and after a refused call that nothing has changed. The answers are
-// worked out by hand.
+// Each sentence of the document that names a boundary case, or that holds for every run, has a test
+// of its own here, which begins with the sentence: the last value that is allowed and the first that
+// is not, on both sides, the least and the greatest int, and after a refused call that nothing has
+// changed. The answers are worked out by hand.
 public final class BoundaryTests {
   private static final int BAD_ARG = -1;
   private static final int FULL = -2;
@@ -1068,7 +1068,136 @@ public final class BoundaryTests {
     }
   }
 
+  // ---- Sentences of the terms that hold for every run ----
+
+  private static void everyKindIsAProgram() {
+    says("A PROGRAM is a STATEMENT: access m; work c, which takes c cycles; seq; if; loop");
+    with(0, 2, "a5 p").worst(10).best(10).bound(10).length(1).paths(1);
+    with(0, 2, "a5 w3 ; p").worst(13).best(13).bound(13).length(2).paths(1);
+    with(0, 2, "a5 w3 ? p").worst(10).best(3).bound(10).length(1).paths(2);
+    with(0, 2, "w3 l12 p").worst(6).best(3).bound(6).length(4).paths(2);
+    for (int c = 0; c <= 50; c++) {
+      with(0, 2, "w" + c + " p").worst(c).best(c).bound(c).length(1).ends(1);
+    }
+  }
+
+  private static void runsAreNotLeftOut() {
+    says("A RUN does the program from beginning to end: one that does not come to an access is no"
+        + " less a run, and has no miss and no hit of it");
+    with(0, 2, "a5 w10 ? p").of(0, 0, 1, 0, 0).worst(10).best(10).worstRuns(2).holds(5, 1).ends(2);
+    with(0, 2, "w10 a5 ? p").of(1, 0, 1, 0, 0).worstRuns(2).holds(5, 1);
+    with(0, 2, "a5 l04 p").of(0, 0, 1, 3, 0);
+    with(0, 2, "a5 l14 p").of(0, 0, 1, 3, 1);
+    with(0, 2, "a5 l14 l01 p").of(0, 0, 1, 3, 0);
+    // Where it is come to it always misses, or always hits.
+    with(0, 1, "a5 a6 ; a5 w1 ? ; p").of(0, 0, 1, 0, 1).of(3, 0, 1, 0, 0);
+    with(0, 1, "a5 a5 w1 ? ; p").of(1, 1, 0, 1, 0);
+    // No run comes to it.
+    with(0, 1, "a5 l00 p").of(0, 0, 0, 0, 0);
+    with(0, 1, "a5 l00 a5 ; p").of(0, 0, 0, 0, 0).of(2, 0, 1, 0, 1);
+  }
+
+  private static void runsAreCountedByPath() {
+    says("runs with the same path are the same, and those with different ones are not");
+    with(0, 2, "w1 w1 ? p").paths(2).worstRuns(2);
+    with(0, 2, "a5 a5 ? p").paths(2).holds(5, 2).ends(1).of(0, 0, 1, 0, 0).of(1, 0, 1, 0, 0);
+    with(0, 2, "w1 l00 l02 p").paths(3).worstRuns(3);
+    with(0, 2, "a5 l22 p").paths(1).worstRuns(1).holds(5, 1);
+    with(0, 2, "a5 l33 l22 a5 ; p").paths(1).worstRuns(1).holds(5, 1).worst(10 + 5 + 1);
+  }
+
+  private static void whatTakesTime() {
+    says("The TIME of a run is the sum of the cycles of its accesses and works");
+    with(0, 2, "w0 l04 p").worst(0).best(0).bound(0);
+    with(0, 2, "w1 l00 l44 p").worst(0).best(0).bound(0).length(4);
+    with(0, 2, "w1 w1 ? w1 ? p").worst(1).best(1).bound(1);
+    with(0, 2, "w7 a5 ; a5 ; w8 ; p").worst(26).best(26).bound(26);
+    with(0, 2, "w7 a5 ; l23 p").worst(21 + 12).best(14 + 11).bound(33);
+  }
+
+  private static void tablesOfASeq() {
+    says("seq: that of A, then that of B; the sum of both bounds");
+    with(0, 1, "a5 a6 ; a5 ; p").bound(30).sure(3, 0);
+    with(0, 1, "a6 a5 ; a5 ; p").bound(21).sure(3, 1);
+    with(0, 1, "a6 a5 a5 ; ; p").bound(21).sure(2, 1);
+    with(0, 2, "w3 w4 ; p").bound(7);
+    says("work c: the bound is c; the table stays");
+    with(0, 1, "a5 w50 ; a5 ; p").bound(10 + 50 + 1).sure(3, 1);
+    with(0, 1, "w0 a5 ; p").bound(10).sure(1, 0);
+  }
+
+  // ---- Every call in every state ----
+
+  private static final String[] STATES = {"", "a5", "a5 w1", "a5 w1 ?", "a5 w9 ? a5 ; l13 p",
+      "a5 w9 ? a5 ; l13 p a1 l44 l44 l44", "w1" + times(17, "l34"), "w1" + times(17, "l11") + " p",
+      times(18, "a11").trim(), times(18, "a11").trim() + " d", "a0 a1 ? a2 ? a3 ? a4 ? l23 p",
+      "w1 l33 l44 w1 ; l44 p", "w1" + times(10, "l01") + " l22 p"};
+  private static final int[] FAR = {LEAST, LEAST + 1, -5, -1, 0, 1, 2, 4, 5, 11, 12, 17, 18, 19, 20,
+      21, 50, 51, 149, 150, MOST - 1, MOST};
+
+  private static void callAll(CycleBounds x, int i, int j) {
+    x.sure(i);
+    x.misses(i);
+    x.hits(i);
+    x.fewest(i);
+    x.holds(i);
+    x.choice(i);
+    x.access(i);
+    x.work(i);
+    x.loop(i, j);
+    x.join(i);
+    x.program();
+  }
+
+  private static void noCallThrows() {
+    says("No call ever throws");
+    for (String calls : STATES) {
+      for (int i : FAR) {
+        for (int j : FAR) {
+          Box x = with(i, j, calls);
+          try {
+            callAll(x.x, i, j);
+            callAll(x.x, j, i);
+          } catch (RuntimeException thrown) {
+            fault(x.story + " and all calls with " + i + ", " + j + ": " + thrown);
+          }
+        }
+      }
+    }
+  }
+
+  private static void askingChangesNothing() {
+    says("Nothing is promised beyond the answers and state changes described above: to ask changes"
+        + " nothing");
+    for (String calls : STATES) {
+      Box x = with(1, 2, calls);
+      if (!x.state().equals(x.state())) {
+        fault("other answers when asked again: " + x.story);
+      }
+    }
+  }
+
+  private static void objectsAreApart() {
+    says("1: A new object is apart from those there are");
+    Box x = new Box(0, 1);
+    Box y = new Box(2, 4);
+    x.access(3, 0);
+    y.depth(0).work(9, 0);
+    x.access(7, 1).join(0, 2);
+    y.access(1, 1).join(1, 2).depth(1);
+    x.loop(2, 2, 3).program(4);
+    y.isWorkZero().program(3).worst(10).choices(1);
+    x.worst(40).holds(3, 0).holds(7, 1);
+    new Box(0, 1).isWorkZero().depth(0);
+    x.worst(40).choices().of(0, 0, 2, 0, 2);
+  }
+
   private static void terms() {
+    everyKindIsAProgram();
+    runsAreNotLeftOut();
+    runsAreCountedByPath();
+    whatTakesTime();
+    tablesOfASeq();
     linesAndSets();
     placesOfASet();
     whatGoesFromAFullSet();
@@ -1117,6 +1246,9 @@ public final class BoundaryTests {
     refusedOnAnEmptyStack();
     refusedOnAFilledStack();
     refusedWithTooMany();
+    noCallThrows();
+    askingChangesNothing();
+    objectsAreApart();
     System.out.println("boundaries: " + sentences + " sentences, "
         + (wrong == 0 ? "all answers are as due" : wrong + " answers are not as due"));
     if (wrong != 0) {

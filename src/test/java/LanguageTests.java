@@ -55,7 +55,8 @@ public final class LanguageTests {
           !field.getType().isArray() || Modifier.isFinal(field.getModifiers()));
       if (isStatic) {
         due(name + " is static and no constant number (rule 5)",
-            Modifier.isFinal(field.getModifiers()) && !field.getType().isArray());
+            Modifier.isFinal(field.getModifiers())
+                && (field.getType() == int.class || field.getType() == long.class));
       } else {
         count++;
       }
@@ -184,6 +185,22 @@ public final class LanguageTests {
     }
   }
 
+  // The class divides nowhere and names no array by a local variable, so there is nothing to look at.
+  private static void checkDivisorsAndLocalArrays(String code) {
+    due("the class divides (rule 7)", !code.contains("/") && !code.contains("%"));
+    for (String body : bodies(code).values()) {
+      due("a local variable names an array (rule 4): " + body, !body.contains("[]"));
+    }
+  }
+
+  private static void checkConstants(String code) {
+    Matcher constants = Pattern.compile("(?m)^.*\\bstatic\\b[^(\n]*;$").matcher(code);
+    while (constants.find()) {
+      due("no constant number (rule 5): " + constants.group(), constants.group()
+          .matches("    (public|private) static final (int|long) [A-Z_]+ = -?\\d+;"));
+    }
+  }
+
   private static void checkText(String code) {
     Matcher words = Pattern.compile("\\b(throw|throws|try|catch|synchronized|assert|instanceof"
         + "|import|package|null|float|double|String|Math|System|Integer|Long|Arrays|Object"
@@ -213,6 +230,8 @@ public final class LanguageTests {
     due("the public face is " + seen, seen.equals(FACE));
     String code = withoutComments(Files.readString(Path.of("src/main/java/CycleBounds.java")));
     checkText(code);
+    checkDivisorsAndLocalArrays(code);
+    checkConstants(code);
     checkCalls(code);
     checkLoops(code);
     System.out.println(wrong == 0 ? "language: all is as due" : wrong + " things are not as due");

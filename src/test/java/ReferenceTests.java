@@ -5,8 +5,8 @@ import java.util.LinkedList;
 import java.util.List;
 import java.util.Set;
 
-// Long runs of calls on CycleBounds and on a second program that is written from the document in
-// another way: it writes every run down as a list of choices and a list of leaves, and uses
+// All small programs, and long runs of calls, on CycleBounds and on a second program that is written
+// from the document in another way: it writes every run down as a list of choices and a list of leaves, and uses
 // recursion and the Java library. Every answer must be the same.
 public final class ReferenceTests {
 
@@ -363,6 +363,11 @@ public final class ReferenceTests {
     }
   }
 
+  private static final String[] LEAVES = {"a0", "a1", "a2", "w5"};
+  private static final String[] LOOPS = {"l00", "l01", "l02", "l12", "l22", "l33"};
+  private static final int[][] CACHES = {{0, 1}, {0, 2}, {0, 3}, {1, 1}, {2, 1}};
+  private static final int SMALL = 4;
+
   private static final int CALLS = 512;
   private static final int OBJECTS = 6000;
 
@@ -462,7 +467,53 @@ public final class ReferenceTests {
     }
   }
 
-  public static void main(String[] args) {
+  // All programs of so many statements, each as its calls in one line.
+  private static List<List<String>> smallPrograms() {
+    List<List<String>> bySize = new ArrayList<>();
+    bySize.add(List.of());
+    bySize.add(List.of(LEAVES));
+    for (int size = 2; size <= SMALL; size++) {
+      List<String> all = new ArrayList<>();
+      for (String a : bySize.get(size - 1)) for (String loop : LOOPS) all.add(a + " " + loop);
+      for (int sizeOfA = 1; sizeOfA < size - 1; sizeOfA++) {
+        for (String a : bySize.get(sizeOfA)) {
+          for (String b : bySize.get(size - 1 - sizeOfA)) {
+            all.add(a + " " + b + " j0");
+            all.add(a + " " + b + " j1");
+          }
+        }
+      }
+      bySize.add(all);
+    }
+    return bySize;
+  }
+
+  private void make(String call) {
+    int value = call.charAt(1) - '0';
+    switch (call.charAt(0)) {
+      case 'a': same(call, x.access(value), y.access(value)); break;
+      case 'w': same(call, x.work(value), y.work(value)); break;
+      case 'j': same(call, x.join(value), y.join(value)); break;
+      default:
+        int hi = call.charAt(2) - '0';
+        same(call, x.loop(value, hi), y.loop(value, hi));
+    }
+    story.append(' ').append(call);
+  }
+
+  private static void compareSmallPrograms() {
+    for (List<String> ofSize : smallPrograms()) {
+      for (String calls : ofSize) {
+        for (int[] cache : CACHES) {
+          ReferenceTests pair = new ReferenceTests(cache[0], cache[1]);
+          for (String call : calls.split(" ")) pair.make(call);
+          pair.makeProgram();
+        }
+      }
+    }
+  }
+
+  private static void compareLongRuns() {
     for (int i = 0; i < OBJECTS; i++) {
       state = i * 7919L + 17;
       ReferenceTests pair = new ReferenceTests(below(5) - 1, below(7) - 1);
@@ -474,12 +525,17 @@ public final class ReferenceTests {
         if (pair.y.made >= 18) pair.same("discard", pair.x.discard(), pair.y.discard());
       }
     }
-    System.out.println("reference: " + programs + " programs, " + tooMany + " refused as too many, "
-        + boundAbove + " with a bound above the worst time");
+  }
+
+  public static void main(String[] args) {
+    compareLongRuns();
     if (programs < OBJECTS || tooMany < 100 || boundAbove < 100) {
       wrong++;
       System.out.println("too few programs of a kind have come up");
     }
+    compareSmallPrograms();
+    System.out.println("reference: " + programs + " programs, " + tooMany + " refused as too many, "
+        + boundAbove + " with a bound above the worst time");
     System.out.println(wrong == 0 ? "reference: all answers are as due" : wrong + " answers are not as due");
     if (wrong != 0) {
       System.exit(1);
